@@ -81,6 +81,11 @@ public final class AheadTest {
             Check.due("19: wants(" + far + ")", x.wants(far), UNKNOWN);
         }
         Check.due("19: wants(5)", x.wants(5), UNKNOWN);
+        x = Check.townOf("RT0012T0A34T0B56T0C77");
+        Check.due("19: all eight", x.wants(3), 255);
+        x.tear(0);
+        x.put(7, 1);
+        Check.due("19: seven of eight", x.wants(3), 127);
     }
 
     private static void breaks() {

@@ -41,6 +41,10 @@ public final class ChanceTest {
         // slip 1 is in its way
         x = Check.townOf("RS00S01T2100T0111");
         restsAre(x, 0, 1, 2, 20);
+        // each choice has a better one: no rest
+        x = Check.townOf("RS00S01S02T2110T2A12");
+        restsAre(x, 1, 0, 0, NONE);
+        restsAre(x, 0, 1, 0, NONE);
         // all pairs of things that hang by two slips
         x = Check.townOf("RS00T0000T2011S01T1100T2100");
         for (int one = 0; one < 4; one++) {
