@@ -14,6 +14,14 @@ final class Check {
         }
     }
 
+    static void dueText(String what, String got, String want) {
+        answers++;
+        if (!got.equals(want)) {
+            wrong++;
+            System.out.println(what + " is\n  " + got + "\ndue is\n  " + want);
+        }
+    }
+
     static void holds(String what, boolean so) {
         due(what, so ? 1 : 0, 1);
     }
