@@ -30,6 +30,7 @@ public final class AheadBoundaryTest {
         eachPlaceIsTold();
         eachDoingThatCanBe();
         doingsGoOnFromEachOther();
+        nDoingsAreJudgedAndNoMore();
         aDoingThatCanNotBeEndsIt();
         shareOfOneThatIsNotOnASpike();
         sharesFromOneSlipToEight();
@@ -308,6 +309,19 @@ public final class AheadBoundaryTest {
         Check.due("21: torn, then not in hand", x.judge(2, 303133), 1);
         Check.due("21: forged, then in hand", x.judge(3, 407170601), NONE);
         Check.due("21: not so till then", x.judge(4, 407601170601L), 1);
+    }
+
+    /** Thing 0 is so till mice come once, thing 1 till they come twice, thing 2 till they come three times. */
+    private static void nDoingsAreJudgedAndNoMore() {
+        SpikeTown x = Check.townOf("RS00S01S02S03S04T0000T0111T0222");
+        for (int thing = 0; thing < 3; thing++) {
+            for (int nights = 0; nights < 4; nights++) {
+                int want = nights <= thing ? NONE : nights;
+                Check.due("21: so after " + nights + " nights", x.judge(nights + 1, 600 + thing), want);
+            }
+        }
+        Check.due("21: so ahead of the night", x.judge(2, 600000), NONE);
+        Check.due("21: so ahead of it, not behind it", x.judge(3, 600000600), 2);
     }
 
     private static void aDoingThatCanNotBeEndsIt() {

@@ -25,6 +25,7 @@ public final class ChanceBoundaryTest {
         restsWithOneSlip();
         restsByTheTwoLeastNumbers();
         restsOfBothTakingOne();
+        restsByWhatTheOtherHas();
         noRests();
         firesOf0Tenths();
         firesOf10Tenths();
@@ -221,6 +222,32 @@ public final class ChanceBoundaryTest {
         // one takes slip 0: 3 - 1 to the one, 3 to the other; both: 3 - 1 to each; none: 1 to each
         restsAre(x, 0, 1, 2, 1);
         restsAre(x, 1, 0, 2, 1);
+    }
+
+    /**
+     * Each thing is so by a slip of its own, the least two there are. To take the other's slip is 1 less and
+     * 1 more, to keep is as good; so it rests where each keeps or takes the other's, and nowhere else.
+     */
+    private static void restsByWhatTheOtherHas() {
+        for (int one = 0; one < 6; one++) {
+            for (int other = 0; other < 6; other++) {
+                if (one != other) {
+                    SpikeTown x = Check.townOf("RT0000T0111T0222T0333T0444T0555");
+                    x.put(other, 0);
+                    x.put(one, 0);
+                    restsAre(x, one, other, 4, 0);
+                    // with the one's slip alone the one keeps it, and the other keeps or takes it
+                    x.take(0);
+                    x.take(0);
+                    x.put(one, 1);
+                    restsAre(x, one, other, 2, 0);
+                    restsAre(x, other, one, 2, 0);
+                }
+            }
+        }
+        // the one's thing is never so: to take slip 0 is as good as to keep, if the other hangs by it
+        restsAre(Check.townOf("RS00T2111T0000"), 0, 1, 2, 0);
+        restsAre(Check.townOf("RS00T2111T2000"), 0, 1, 1, 0);
     }
 
     private static void noRests() {
